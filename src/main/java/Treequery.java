@@ -636,20 +636,20 @@ public final class Treequery {
     /** Makes the spare tree the tree, and counts what that changes in the views. */
     private void settle() {
         for (int view = 0; view < viewCount; view++) {
+            all.prepare(viewPaths.get(view));
             viewSets.set(view, viewedNodes(view));
         }
         tree.copy(spare);
         all.start(tree.layout.everything());
         isReaderStale = true;
         for (int view = 0; view < viewCount; view++) {
+            all.prepare(viewPaths.get(view));
             viewChanges.set(view, Long.bitCount(viewSets.get(view) ^ viewedNodes(view)));
         }
     }
 
     private long viewedNodes(int view) {
-        int path = viewPaths.get(view);
-        all.prepare(path);
-        return tree.layout.nodesOf(all.foundFrom(path, ROOT));
+        return tree.layout.nodesOf(all.foundFrom(viewPaths.get(view), ROOT));
     }
 
     private Finder refreshedReader() {
@@ -701,8 +701,9 @@ public final class Treequery {
         int union(int start, int members) {
             int union = 0;
             for (int member = 0; member < 8; member++) {
-                if ((members >> member & 1) != 0) {
-                    union |= get(start + member);
+                int at = start + member;
+                if ((members >> member & 1) != 0 && at >= 0 && at < cells.length) {
+                    union |= cells[at];
                 }
             }
             return union;
@@ -751,7 +752,8 @@ public final class Treequery {
             long union = 0L;
             long rest = members;
             for (int left = Long.bitCount(members); left > 0; left--) {
-                union |= get(start + Bits.lowest(rest));
+                int at = start + Bits.lowest(rest);
+                union |= at >= 0 && at < cells.length ? cells[at] : 0L;
                 rest &= rest - 1;
             }
             return union;
@@ -769,10 +771,6 @@ public final class Treequery {
                 return 0L;
             }
             return end >= 64 ? -1L : (1L << end) - 1L;
-        }
-
-        static long range(int from, int end) {
-            return below(end) & ~below(from);
         }
 
         static boolean holds(long set, int member) {
@@ -810,7 +808,9 @@ public final class Treequery {
         private final Row ends = new Row(MOST_NODES, 0);
         private final Row spaces = new Row(MOST_NODES, NONE);
         private final Sets inner = new Sets(MOST_NODES);
+        private final Sets beside = new Sets(MOST_NODES);
         private final Sets above = new Sets(MOST_NODES);
+        private final Sets below = new Sets(MOST_NODES);
         private final Sets tests = new Sets(ALL_TESTS);
         private long elements = 0L;
         private long attributes = 0L;
@@ -852,10 +852,13 @@ public final class Treequery {
             tests.add(SPACE + space, spot);
         }
 
+        /** Tells what hangs on what, once all nodes are in: what is below a spot ends where its last child ends. */
         void close() {
-            for (int spot = count - 1; spot > 0; spot--) {
+            for (int spot = count - 1; spot >= 0; spot--) {
                 int up = ups.get(spot);
                 ends.set(up, Math.max(ends.get(up), ends.get(spot)));
+                below.set(spot, Bits.below(ends.get(spot)) & ~Bits.below(spot + 1));
+                beside.set(spot, Bits.holds(attributes, spot) ? 0L : children(up));
             }
         }
 
@@ -924,7 +927,7 @@ public final class Treequery {
         }
 
         long below(int spot) {
-            return Bits.range(spot + 1, ends.get(spot));
+            return below.get(spot);
         }
 
         /** The set with all that is below its members. */
@@ -932,7 +935,7 @@ public final class Treequery {
             long wide = set;
             for (int spot = 0; spot < count; spot++) {
                 if (Bits.holds(set, spot)) {
-                    wide |= below(spot);
+                    wide |= below.get(spot);
                 }
             }
             return wide;
@@ -964,34 +967,30 @@ public final class Treequery {
                 case SELF:
                     return Bits.one(spot);
                 case CHILD:
-                    return children(spot);
+                    return inner.get(spot) & ~attributes;
                 case PARENT:
                     return Bits.one(ups.get(spot));
                 case DESCENDANT:
-                    return below(spot) & ~attributes;
+                    return below.get(spot) & ~attributes;
                 case DESCENDANT_OR_SELF:
-                    return below(spot) & ~attributes | Bits.one(spot);
+                    return below.get(spot) & ~attributes | Bits.one(spot);
                 case ANCESTOR:
                     return above.get(spot);
                 case ANCESTOR_OR_SELF:
                     return above.get(spot) | Bits.one(spot);
                 case FOLLOWING:
-                    return Bits.range(ends.get(spot), count) & ~attributes;
+                    return Bits.below(count) & ~Bits.below(ends.get(spot)) & ~attributes;
                 case PRECEDING:
                     return Bits.below(spot) & ~attributes & ~above.get(spot);
                 case FOLLOWING_SIBLING:
-                    return siblings(spot) & ~Bits.below(spot + 1);
+                    return beside.get(spot) & ~Bits.below(spot + 1);
                 case PRECEDING_SIBLING:
-                    return siblings(spot) & Bits.below(spot);
+                    return beside.get(spot) & Bits.below(spot);
                 case ATTRIBUTES:
-                    return attributesOf(spot);
+                    return inner.get(spot) & attributes;
                 default:
                     return 0L;
             }
-        }
-
-        private long siblings(int spot) {
-            return Bits.holds(attributes, spot) ? 0L : children(ups.get(spot));
         }
     }
 
@@ -1137,13 +1136,13 @@ public final class Treequery {
             int ahead = ROOT;
             for (int spot = 0; spot < layout.count(); spot++) {
                 if (Bits.holds(layout.solids() & ~fresh, spot)) {
-                    if (!numberRow(fresh & Bits.range(ahead, spot), ahead, spot)) {
+                    if (!numberRow(fresh & Bits.below(spot) & ~Bits.below(ahead), ahead, spot)) {
                         return false;
                     }
                     ahead = spot;
                 }
             }
-            return numberRow(fresh & Bits.range(ahead, layout.count()), ahead, NONE);
+            return numberRow(fresh & ~Bits.below(ahead), ahead, NONE);
         }
 
         private boolean numberRow(long row, int ahead, int behind) {
@@ -1566,9 +1565,8 @@ public final class Treequery {
         private final Layout layout;
         private final Paths paths;
         private final Sets tables = new Sets(MOST_PATHS * MOST_NODES);
+        /** What the step at hand finds from each spot. */
         private final Sets leaps = new Sets(MOST_NODES);
-        /** For each condition of the step at hand the nodes that count for it, if another path finds them. */
-        private final Sets wanted = new Sets(MOST_CONDITIONS);
         private final Row values = new Row(MOST_NODES, NONE);
         private long seen = 0L;
         private int ready = 0;
@@ -1613,13 +1611,20 @@ public final class Treequery {
         }
 
         private void takeStep(int path, int step) {
+            int axis = paths.axisOf(step);
+            if (axis == REPEAT) {
+                reachByPath(paths.repeatOf(step), layout.passing(paths.testOf(step)));
+            } else {
+                reachByAxis(axis, layout.passing(paths.testOf(step)));
+            }
             for (int i = 0; i < paths.conditionsOf(step); i++) {
                 int condition = paths.conditionAt(step, i);
-                boolean isWorth = paths.whatOf(condition) == Paths.WORTHY;
-                wanted.set(i, isWorth ? worthy(condition) : -1L);
-            }
-            for (int spot = 0; spot < layout.count(); spot++) {
-                leaps.set(spot, Bits.holds(seen, spot) ? leap(step, spot) : 0L);
+                int what = paths.whatOf(condition);
+                if (what == Paths.PLACED || what == Paths.FINAL) {
+                    siftByPlace(condition, goesBack(axis));
+                } else {
+                    siftByTruth(condition, what == Paths.WORTHY ? worthy(condition) : -1L);
+                }
             }
             for (int spot = 0; spot < layout.count(); spot++) {
                 int entry = path * MOST_NODES + spot;
@@ -1627,6 +1632,48 @@ public final class Treequery {
             }
         }
 
+        private void reachByAxis(int axis, long passing) {
+            for (int spot = 0; spot < layout.count(); spot++) {
+                leaps.set(spot, layout.reached(axis, spot) & passing & seen);
+            }
+        }
+
+        private void reachByPath(int path, long passing) {
+            int table = path * MOST_NODES;
+            for (int spot = 0; spot < layout.count(); spot++) {
+                long reached = tables.get(table + spot);
+                long wider = reached | tables.union(table, reached);
+                for (int round = 0; round < MOST_NODES && wider != reached; round++) {
+                    reached = wider;
+                    wider = reached | tables.union(table, reached);
+                }
+                leaps.set(spot, wider & passing & seen);
+            }
+        }
+
+        private void siftByPlace(int condition, boolean isBack) {
+            boolean isLast = paths.whatOf(condition) == Paths.FINAL;
+            for (int spot = 0; spot < layout.count(); spot++) {
+                long set = leaps.get(spot);
+                int comparison = isLast ? EQUAL : paths.comparisonOf(condition);
+                int number = isLast ? Long.bitCount(set) : paths.numberOf(condition);
+                leaps.set(spot, keepPlaced(set, isBack, comparison, number));
+            }
+        }
+
+        private void siftByTruth(int condition, long counting) {
+            boolean isDue = paths.whatOf(condition) != Paths.LACKING;
+            long hitting = 0L;
+            for (int spot = 0; spot < layout.count(); spot++) {
+                boolean isHit = (tables.get(paths.otherOf(condition) * MOST_NODES + spot) & counting) != 0L;
+                hitting |= isHit == isDue ? Bits.one(spot) : 0L;
+            }
+            for (int spot = 0; spot < layout.count(); spot++) {
+                leaps.set(spot, leaps.get(spot) & hitting);
+            }
+        }
+
+        /** The nodes whose own values are as a condition WORTH asks. */
         private long worthy(int condition) {
             long set = 0L;
             for (int spot = 0; spot < layout.count(); spot++) {
@@ -1638,45 +1685,8 @@ public final class Treequery {
             return set;
         }
 
-        private long leap(int step, int spot) {
-            int axis = paths.axisOf(step);
-            long set = axis == REPEAT ? repeated(paths.repeatOf(step), spot) : layout.reached(axis, spot);
-            set &= seen & layout.passing(paths.testOf(step));
-            for (int i = 0; i < paths.conditionsOf(step); i++) {
-                int condition = paths.conditionAt(step, i);
-                int what = paths.whatOf(condition);
-                if (what == Paths.PLACED || what == Paths.FINAL) {
-                    set = keepPlaced(set, condition, goesBack(axis));
-                } else {
-                    set = keepTrue(set, condition, wanted.get(i));
-                }
-            }
-            return set;
-        }
-
-        private long repeated(int path, int spot) {
-            int table = path * MOST_NODES;
-            long reached = tables.get(table + spot);
-            for (int round = 0; round < MOST_NODES; round++) {
-                long wider = reached | tables.union(table, reached);
-                if (wider == reached) {
-                    return reached;
-                }
-                reached = wider;
-            }
-            return reached;
-        }
-
-        private static boolean goesBack(int axis) {
-            return axis == PARENT || axis == ANCESTOR || axis == ANCESTOR_OR_SELF || axis == PRECEDING
-                    || axis == PRECEDING_SIBLING;
-        }
-
-        private long keepPlaced(long set, int condition, boolean isBack) {
+        private static long keepPlaced(long set, boolean isBack, int comparison, int number) {
             int size = Long.bitCount(set);
-            boolean isLast = paths.whatOf(condition) == Paths.FINAL;
-            int comparison = isLast ? EQUAL : paths.comparisonOf(condition);
-            int number = isLast ? size : paths.numberOf(condition);
             long kept = 0L;
             long rest = set;
             for (int passed = 1; passed <= size; passed++) {
@@ -1688,19 +1698,9 @@ public final class Treequery {
             return kept;
         }
 
-        private long keepTrue(long set, int condition, long counting) {
-            boolean isDue = paths.whatOf(condition) != Paths.LACKING;
-            int table = paths.otherOf(condition) * MOST_NODES;
-            long kept = 0L;
-            long rest = set;
-            for (int left = Long.bitCount(set); left > 0; left--) {
-                boolean finds = (tables.get(table + Bits.lowest(rest)) & counting) != 0L;
-                if (finds == isDue) {
-                    kept |= rest & -rest;
-                }
-                rest &= rest - 1;
-            }
-            return kept;
+        private static boolean goesBack(int axis) {
+            return axis == PARENT || axis == ANCESTOR || axis == ANCESTOR_OR_SELF || axis == PRECEDING
+                    || axis == PRECEDING_SIBLING;
         }
 
         int orderedSpot(int path, int place) {
