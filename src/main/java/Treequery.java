@@ -1102,8 +1102,9 @@ public final class Treequery {
 
         boolean hasTwins() {
             for (int spot = 0; spot < layout.count(); spot++) {
-                for (int name = 0; name < NAMES; name++) {
-                    if (Long.bitCount(layout.attributesOf(spot) & layout.passing(name)) > 1) {
+                long attributes = layout.attributesOf(spot);
+                for (int name = 0; name < NAMES && attributes != 0L; name++) {
+                    if (Long.bitCount(attributes & layout.passing(name)) > 1) {
                         return true;
                     }
                 }
@@ -1147,9 +1148,12 @@ public final class Treequery {
 
         private boolean numberRow(long row, int ahead, int behind) {
             int size = Long.bitCount(row);
+            if (size < 1) {
+                return true;
+            }
             int start = numbers.get(layout.nodeAt(ahead));
             int room = numbers.get(layout.nodeAt(behind)) - start;
-            if (size > 0 && behind != NONE && room <= size) {
+            if (behind != NONE && room <= size) {
                 return false;
             }
             for (int place = 1; place <= size; place++) {
@@ -1245,6 +1249,8 @@ public final class Treequery {
         private final Row subjects = new Row(MOST_UPDATES, NONE);
         private long fresh = 0L;
         private long taken = 0L;
+        /** The elements that something is put into. */
+        private long entered = 0L;
         private int count = 0;
 
         int count() {
@@ -1332,6 +1338,7 @@ public final class Treequery {
             then.copyLoose(now);
             fresh = 0L;
             taken = 0L;
+            entered = 0L;
             for (int update = 0; update < count; update++) {
                 change(then, update);
             }
@@ -1346,6 +1353,7 @@ public final class Treequery {
 
         private void change(Tree then, int update) {
             int target = targets.get(update);
+            entered |= Bits.one(parents.get(update));
             switch (whats.get(update)) {
                 case INSERTION:
                     int node = then.make(kinds.get(update), names.get(update), contents.get(update));
@@ -1376,14 +1384,15 @@ public final class Treequery {
             int element = now.layout.nodeAt(spot);
             long old = now.layout.attributesOf(spot);
             int olds = Long.bitCount(old);
-            for (int name = 0; name < NAMES; name++) {
+            int news = Bits.holds(entered, element) ? count : 0;
+            for (int name = 0; name < NAMES && olds + news > 0; name++) {
                 for (int place = 0; place < olds; place++) {
                     int node = now.layout.nodeOfSet(old, place);
                     if (then.names.get(node) == name && !Bits.holds(taken, node)) {
                         then.append(element, node);
                     }
                 }
-                for (int update = 0; update < count; update++) {
+                for (int update = 0; update < news; update++) {
                     if (isInto(update, element, NONE) && names.get(update) == name) {
                         then.append(element, subjects.get(update));
                     }
@@ -1395,8 +1404,9 @@ public final class Treequery {
             int element = now.layout.nodeAt(spot);
             long old = now.layout.children(spot);
             int olds = Long.bitCount(old);
+            int news = Bits.holds(entered, element) ? count : 0;
             for (int place = 0; place <= olds; place++) {
-                for (int update = 0; update < count; update++) {
+                for (int update = 0; update < news; update++) {
                     if (isInto(update, element, place)) {
                         then.append(element, subjects.get(update));
                     }
@@ -1716,10 +1726,12 @@ public final class Treequery {
         /** NONE is below all values, so that nodes without one come ahead. */
         private int countAhead(long set, int spot) {
             int count = 0;
-            for (int other = 0; other < layout.count(); other++) {
-                boolean isAhead = values.get(other) < values.get(spot)
-                        || values.get(other) == values.get(spot) && other < spot;
-                count += Bits.holds(set, other) && isAhead ? 1 : 0;
+            long rest = set;
+            for (int left = Long.bitCount(set); left > 0; left--) {
+                int other = Bits.lowest(rest);
+                int lead = values.get(spot) - values.get(other);
+                count += lead > 0 || lead == 0 && other < spot ? 1 : 0;
+                rest &= rest - 1;
             }
             return count;
         }
@@ -1843,16 +1855,16 @@ public final class Treequery {
                     return false;
                 }
             }
-            return isAccepted(layout, layout.children(spot) & layout.elements(), type);
+            return isAccepted(layout.children(spot) & layout.elements(), type);
         }
 
         /** Whether some types of these elements lead from the state 0 to a final one. */
-        private boolean isAccepted(Layout layout, long elements, int type) {
+        private boolean isAccepted(long elements, int type) {
             int states = 1;
-            for (int spot = 0; spot < layout.count(); spot++) {
-                if (Bits.holds(elements, spot)) {
-                    states = statesBehind(type, states, typeSets.get(spot));
-                }
+            long rest = elements;
+            for (int left = Long.bitCount(elements); left > 0; left--) {
+                states = statesBehind(type, states, typeSets.get(Bits.lowest(rest)));
+                rest &= rest - 1;
             }
             return (states & finals.get(type)) != 0;
         }
@@ -1995,9 +2007,11 @@ public final class Treequery {
             line(to.layout, otherNodes, otherLefts);
             int size = from.layout.count();
             int otherSize = to.layout.count();
+            long tops = outermost(lefts, size);
+            long otherTops = outermost(otherLefts, otherSize);
             for (int top = 0; top < size; top++) {
                 for (int otherTop = 0; otherTop < otherSize; otherTop++) {
-                    if (isOutermost(lefts, top, size) && isOutermost(otherLefts, otherTop, otherSize)) {
+                    if (Bits.holds(tops, top) && Bits.holds(otherTops, otherTop)) {
                         compare(from, to, top, otherTop);
                     }
                 }
@@ -2015,13 +2029,17 @@ public final class Treequery {
             }
         }
 
-        private static boolean isOutermost(Row lefts, int place, int size) {
-            for (int behind = place + 1; behind < size; behind++) {
-                if (lefts.get(behind) == lefts.get(place)) {
-                    return false;
+        /** The last ones of all that begin at one leftmost place; the trees of the others are done along with theirs. */
+        private static long outermost(Row lefts, int size) {
+            long tops = 0L;
+            long begun = 0L;
+            for (int place = size - 1; place >= 0; place--) {
+                if (!Bits.holds(begun, lefts.get(place))) {
+                    tops |= Bits.one(place);
                 }
+                begun |= Bits.one(lefts.get(place));
             }
-            return true;
+            return tops;
         }
 
         private void compare(Tree from, Tree to, int top, int otherTop) {

@@ -48,6 +48,11 @@ public final class NodesTest {
         Due.throwing("no version", Due.BOUNDS, () -> x.take(0));
         Due.is("no index", true, x.index(0));
         Due.is("seen", true, x.isSeen(0));
+        x.path();
+        Due.is("a path finds the root", 1, x.found(0, 0));
+        x.step(0, Treequery.SELF, Treequery.SPACE, NONE);
+        Due.is("an element with the space 0", 0, x.foundAt(0, 0));
+        Due.is("one without a value", 1, x.groups(0));
         Treequery y = new Treequery();
         y.insertText(0, 0, 1);
         y.apply();

@@ -12,6 +12,8 @@ public final class PathsTest {
         axes();
         axesOfAttributes();
         repeats();
+        repeatsDeep();
+        lastPathOfAll();
         tests();
         severalSteps();
         places();
@@ -108,7 +110,8 @@ public final class PathsTest {
         wrong(x, "last of no path", Due.BOUNDS, () -> x.last(2));
         wrong(x, "last of a path that is not the last", Due.STATE, () -> x.last(0));
         Due.is("last of another step", 1, x.last(1));
-        wrong(x, "has of no path", Due.BOUNDS, () -> x.has(-1, 0, true));
+        wrong(x, "has of path -1", Due.BOUNDS, () -> x.has(-1, 0, true));
+        wrong(x, "has of no path", Due.BOUNDS, () -> x.has(2, 0, true));
         wrong(x, "has of itself", Due.BOUNDS, () -> x.has(1, 1, true));
         wrong(x, "has of -1", Due.BOUNDS, () -> x.has(1, -1, true));
         wrong(x, "has of a path that is not the last, by itself", Due.BOUNDS, () -> x.has(0, 0, true));
@@ -159,6 +162,7 @@ public final class PathsTest {
         Due.throwing("ordered 3 of 3", Due.BOUNDS, () -> x.ordered(path, 3));
         Due.throwing("ordered -1", Due.BOUNDS, () -> x.ordered(path, -1));
         Due.throwing("groups of no path", Due.BOUNDS, () -> x.groups(1));
+        Due.throwing("foundAnew of path -1", Due.BOUNDS, () -> x.foundAnew(-1, 0));
         Due.throwing("groups of path -1", Due.BOUNDS, () -> x.groups(Integer.MIN_VALUE));
     }
 
@@ -255,6 +259,62 @@ public final class PathsTest {
         x.step(last, Treequery.REPEAT, ANY, child);
         x.last(last);
         Due.is("the last of all", "3 ", Sample.found(x, last));
+    }
+
+    /** A chain of twenty elements: the path has to be asked again and again. */
+    private static void repeatsDeep() {
+        Treequery x = new Treequery();
+        for (int node = 0; node < 20; node++) {
+            x.insertElement(node, 0, node % 2);
+            x.apply();
+        }
+        int child = Sample.path(x, Treequery.CHILD, ANY);
+        int down = x.path();
+        x.step(down, Treequery.REPEAT, ANY, child);
+        Due.is("down to the end", 20, x.found(down, 0));
+        Due.is("down from the middle", 9, x.found(down, 11));
+        int up = Sample.path(x, Treequery.PARENT, ANY);
+        int above = x.path();
+        x.step(above, Treequery.REPEAT, 0, up);
+        Due.is("up to the root", 11, x.found(above, 20));
+        int twice = x.path();
+        x.step(twice, Treequery.REPEAT, ANY, above);
+        x.last(twice);
+        Due.is("again by what repeats", 1, x.found(twice, 20));
+        int all = x.path();
+        x.step(all, Treequery.REPEAT, ANY, down);
+        x.place(all, Treequery.GREATER, 18);
+        Due.is("all below, the last two", "19 20 ", Sample.found(x, all));
+    }
+
+    /** The last of twenty paths, with all steps and conditions that it can have. */
+    private static void lastPathOfAll() {
+        Treequery x = Sample.tree();
+        int texts = Sample.path(x, Treequery.DESCENDANT_OR_SELF, Treequery.TEXTS);
+        for (int path = 1; path < 19; path++) {
+            x.path();
+        }
+        int path = x.path();
+        x.step(path, Treequery.CHILD, ANY, NONE);
+        x.has(path, texts, true);
+        x.place(path, Treequery.LESS, 3);
+        Due.is("first step", "1 2 ", Sample.found(x, path));
+        x.step(path, Treequery.DESCENDANT_OR_SELF, ANY, NONE);
+        x.worth(path, texts, Treequery.LESS, 10);
+        x.place(path, Treequery.GREATER, 1);
+        Due.is("second step", "6 8 ", Sample.found(x, path));
+        x.step(path, Treequery.PRECEDING, ANY, NONE);
+        x.has(path, texts, false);
+        x.place(path, Treequery.EQUAL, 1);
+        Due.is("third step", "5 7 ", Sample.found(x, path));
+        x.step(path, Treequery.ANCESTOR, ANY, NONE);
+        x.place(path, Treequery.EQUAL, 1);
+        x.worth(path, texts, Treequery.EQUAL, 5);
+        Due.is("fourth step", "2 ", Sample.found(x, path));
+        x.step(path, Treequery.FOLLOWING_SIBLING, Treequery.TEXTS, NONE);
+        x.last(path);
+        x.worth(path, texts, Treequery.GREATER, 4);
+        Due.is("fifth step", "3 ", Sample.found(x, path));
     }
 
     private static void tests() {

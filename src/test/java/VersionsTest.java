@@ -12,6 +12,7 @@ public final class VersionsTest {
         distances();
         distancesOfLabels();
         distanceByMoves();
+        distanceOfAll();
         distanceWrong();
         odds();
         oddsByPlaces();
@@ -232,6 +233,37 @@ public final class VersionsTest {
         x.keep();
         Due.is("a root in above the root", 1, x.distance(0, 3));
         Due.is("and out again", 1, x.distance(3, 0));
+    }
+
+    /** Sixty nodes, in a row and in a chain. */
+    private static void distanceOfAll() {
+        Treequery x = new Treequery();
+        x.keep();
+        for (int i = 0; i < 59; i++) {
+            x.insertElement(0, 0, 1);
+            if (i % 20 == 18) {
+                x.apply();
+            }
+        }
+        x.apply();
+        x.keep();
+        Due.is("59 in", 59, x.distance(0, 1));
+        for (int node = 59; node > 1; node--) {
+            x.move(node, node - 1, 0);
+            if (node % 20 == 0) {
+                x.apply();
+            }
+        }
+        x.apply();
+        x.keep();
+        Due.is("59 out", 59, x.distance(2, 0));
+        Due.is("a row into a chain: one stays, and below it all but one go and come", 58 * 2, x.distance(1, 2));
+        x.rename(0, 2);
+        x.rename(59, 3);
+        x.apply();
+        x.keep();
+        Due.is("both ends of the chain", 2, x.distance(2, 3));
+        Due.is("asked again", 58 * 2, x.distance(2, 1));
     }
 
     private static void distanceWrong() {
