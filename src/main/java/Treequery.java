@@ -1304,6 +1304,7 @@ public final class Treequery {
             return now.madeCount() + insertions <= MOST_NODES;
         }
 
+        /** The document asks for this, though today only calls that need an empty list change the tree in between. */
         private boolean isStale(Tree now, int update) {
             int target = targets.get(update);
             int parent = parents.get(update);
