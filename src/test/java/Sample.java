@@ -1,3 +1,5 @@
+import java.util.function.IntUnaryOperator;
+
 /** Trees that many tests begin with. */
 final class Sample {
     private Sample() {
@@ -36,20 +38,44 @@ final class Sample {
 
     /** The children of a node, with a blank behind each. */
     static String children(Treequery x, int node) {
-        StringBuilder told = new StringBuilder();
-        for (int place = 0; x.child(node, place) != Treequery.NONE; place++) {
-            told.append(x.child(node, place)).append(' ');
-        }
-        return told.toString();
+        return untilNone(place -> x.child(node, place));
     }
 
     /** What a path finds from the root, with a blank behind each. */
     static String found(Treequery x, int path) {
+        return upTo(x.found(path, 0), place -> x.foundAt(path, place));
+    }
+
+    /** What a path finds from the root, ordered by values, with a blank behind each. */
+    static String ordered(Treequery x, int path) {
+        return upTo(x.found(path, 0), place -> x.ordered(path, place));
+    }
+
+    /** The nodes of a view, with a blank behind each. */
+    static String viewed(Treequery x, int view) {
+        return untilNone(place -> x.viewed(view, place));
+    }
+
+    /** The elements that are ranked for a word, with a blank behind each. */
+    static String rank(Treequery x, int word) {
+        return untilNone(place -> x.ranked(word, place));
+    }
+
+    private static String upTo(int end, IntUnaryOperator nodeAt) {
         StringBuilder told = new StringBuilder();
-        for (int place = 0; place < x.found(path, 0); place++) {
-            told.append(x.foundAt(path, place)).append(' ');
+        for (int place = 0; place < end; place++) {
+            told.append(nodeAt.applyAsInt(place)).append(' ');
         }
         return told.toString();
+    }
+
+    /** There are at most 60 nodes: a list without an end is cut behind them. */
+    private static String untilNone(IntUnaryOperator nodeAt) {
+        int end = 0;
+        while (end <= 60 && nodeAt.applyAsInt(end) != Treequery.NONE) {
+            end++;
+        }
+        return upTo(end, nodeAt);
     }
 
     /** All that the calls tell of the nodes, to see that nothing has changed. */

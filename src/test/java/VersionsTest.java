@@ -22,19 +22,11 @@ public final class VersionsTest {
         Due.end();
     }
 
-    private static String rank(Treequery x, int word) {
-        StringBuilder told = new StringBuilder();
-        for (int place = 0; x.ranked(word, place) != NONE; place++) {
-            told.append(x.ranked(word, place)).append(' ');
-        }
-        return told.toString();
-    }
-
     private static void ranked() {
         Treequery x = Sample.tree();
-        Due.is("9 is all of 1 and a third of 0", "1 0 ", rank(x, 9));
-        Due.is("5 is all of 2 and two thirds of 0", "2 0 ", rank(x, 5));
-        Due.is("a word of an attribute is none", "", rank(x, 7));
+        Due.is("9 is all of 1 and a third of 0", "1 0 ", Sample.rank(x, 9));
+        Due.is("5 is all of 2 and two thirds of 0", "2 0 ", Sample.rank(x, 5));
+        Due.is("a word of an attribute is none", "", Sample.rank(x, 7));
         Due.is("no such word", NONE, x.ranked(0, 0));
         Due.is("far away", NONE, x.ranked(5, Integer.MAX_VALUE));
         Due.throwing("place -1", Due.BOUNDS, () -> x.ranked(5, -1));
@@ -44,7 +36,7 @@ public final class VersionsTest {
         x.insertText(1, 2, 5);
         x.setValue(6, 5);
         x.apply();
-        Due.is("of the same those ahead", "0 1 2 ", rank(x, 5));
+        Due.is("of the same those ahead", "0 1 2 ", Sample.rank(x, 5));
     }
 
     /** Quotients that are close to one another, and texts deep below. */
@@ -62,8 +54,8 @@ public final class VersionsTest {
             x.insertText(10, 0, i < 2 ? 1 : 2);
         }
         x.apply();
-        Due.is("3 of 7, 5 of 12, 2 of 5", "1 0 2 10 ", rank(x, 1));
-        Due.is("3 of 5, 7 of 12, 4 of 7", "2 10 0 1 ", rank(x, 2));
+        Due.is("3 of 7, 5 of 12, 2 of 5", "1 0 2 10 ", Sample.rank(x, 1));
+        Due.is("3 of 5, 7 of 12, 4 of 7", "2 10 0 1 ", Sample.rank(x, 2));
     }
 
     private static void keepAndTake() {
