@@ -1652,13 +1652,13 @@ public final class Treequery {
         private void reachByPath(int path, long passing) {
             int table = path * MOST_NODES;
             for (int spot = 0; spot < layout.count(); spot++) {
-                long reached = tables.get(table + spot);
-                long wider = reached | tables.union(table, reached);
-                for (int round = 0; round < MOST_NODES && wider != reached; round++) {
-                    reached = wider;
-                    wider = reached | tables.union(table, reached);
+                long reached = 0L;
+                long fresh = tables.get(table + spot);
+                for (int round = 0; round < MOST_NODES && fresh != 0L; round++) {
+                    reached |= fresh;
+                    fresh = tables.union(table, fresh) & ~reached;
                 }
-                leaps.set(spot, wider & passing & seen);
+                leaps.set(spot, reached & passing & seen);
             }
         }
 
